@@ -1541,9 +1541,9 @@ public final class BarredSuits {
                 records.removeLink(place);
             } else if (kind == CUTTING) {
                 records.insertLink(place, rows[row + 2], rows[row + 3], rows[row + 4], rows[row + 5]);
-            } else if (kind == RULING) {
+            } else if (kind == RULING && place >= SHARE && place <= EACH) {
                 records.rules[place] = rows[row + 2];
-            } else {
+            } else if (place >= 0 && place < records.suitCount) {
                 takeBackOf(records.suits[place], row);
             }
         }

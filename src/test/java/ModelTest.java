@@ -598,11 +598,57 @@ public final class ModelTest {
         }
     }
 
+    /** All that fits: twelve persons, twenty-four links, ten suits, nearly all of them judged. */
+    private void goFull() {
+        StringBuilder text = new StringBuilder();
+        for (int i = 0; i < 12; i++) {
+            text.append("person ").append((char) ('a' + i)).append(';');
+        }
+        issues = 3;
+        for (int i = 0; i < 10; i++) {
+            int p = upTo(2);
+            text.append("suit ").append((char) ('a' + p)).append(' ').append((char) ('a' + (p + 1 + upTo(1)) % 3));
+            text.append(' ').append(upTo(days)).append("facts0needs0 2buts1;");
+        }
+        feed(text.toString());
+        model = Model.of(Check.bytesOf(text.toString()));
+        tape = new ByteArrayOutputStream();
+        Check.due(run + "full desk", x.desk(text.length()), 10);
+        for (int i = 0; i < 25; i++) {
+            int p = upTo(11);
+            int q = (p + 1 + upTo(10)) % 12;
+            int from = upTo(days);
+            int to = often(50) ? -1 : from + upTo(days);
+            both("tie", () -> x.tie(p, q, from, to), () -> modelTie(p, q, from, to));
+        }
+        for (int i = 0; i < 10; i++) {
+            int suit = i;
+            int day = model.suits.get(i).filed + (often(70) ? 0 : upTo(days));
+            both("judge", () -> x.judge(suit, day, true) ? 1 : 0, () -> modelJudge(suit, day, true));
+            for (int k = 0; k < 3; k++) {
+                int issue = k;
+                int how = often(70) ? 1 - k % 2 : upTo(1);
+                both("find", () -> x.find(suit, issue, how, true), () -> modelFind(suit, issue, how, true));
+            }
+        }
+        calls += 110;
+        for (int i = 0; i < 300; i++) {
+            if (often(90)) {
+                look();
+            } else {
+                ask();
+            }
+        }
+    }
+
     public static void main(String[] args) {
         int first = args.length > 0 ? Integer.parseInt(args[0]) : 1;
         int runs = args.length > 1 ? Integer.parseInt(args[1]) : RUNS;
         for (int seed = first; seed < first + runs; seed++) {
             new ModelTest(seed).go();
+            if (seed % 5 == 0) {
+                new ModelTest(seed).goFull();
+            }
         }
         Check.finish("ModelTest");
     }

@@ -143,8 +143,42 @@ public final class PromisesTest {
         fault("mutual 2;each 1;mutual 0;each 0;", 0, -1);
         fault("each 2;", 2, 5);
         fault("each;", 1, 4);
+        words();
         tooMany();
         latestFault();
+    }
+
+    /** Each word of the language with another letter at its first and at its last place. */
+    private static void words() {
+        String start = "person a;person b;suit a b 5 needs 1;";
+        String[][] lines = {{"", "person c"}, {"", "heir a b 1"}, {"", "ruler a b 1 2"}, {"", "suit a b 1"},
+            {"", "judged 0 5 form"}, {"judged 0 5 form;", "reversed 0"}, {"", "share 1"}, {"", "mutual 1"}, {"", "each 1"},
+            {"suit a b 1 ", "facts 1"}, {"suit a b 1 ", "needs 1"}, {"suit a b 1 ", "buts 1"}, {"judged 0 5 ", "merits"},
+            {"judged 0 5 ", "form"}, {"judged 0 5 form ", "yes 1"}, {"judged 0 5 form ", "no 1"},
+            {"judged 0 5 form yes 1 ", "untried 1"}};
+        for (String[] line : lines) {
+            String ahead = start + line[0];
+            String word = line[1].split(" ")[0];
+            String rest = line[1].substring(word.length()) + ";";
+            fault(ahead + word + rest, 0, -1);
+            fault(ahead + "z" + word.substring(1) + rest, 1, ahead.length());
+            fault(ahead + word.substring(0, word.length() - 1) + "z" + rest, 1, ahead.length());
+            fault(ahead + word + "z" + rest, 1, ahead.length());
+            fault(ahead + word.substring(0, word.length() - 1) + rest, 1, ahead.length());
+        }
+        String[] values = {"suit", "plaintiff", "defendant", "filed", "day", "wins", "barred", "held", "open", "forced"};
+        BarredSuits x = new BarredSuits();
+        for (String word : values) {
+            question(x, "many " + word + "=1", 0);
+            wrongQuestion(x, "many z" + word.substring(1) + "=1", 1, 5);
+            wrongQuestion(x, "many " + word.substring(0, word.length() - 1) + "=1", 1, 5);
+            wrongQuestion(x, "many " + word + "z=1", 1, 5);
+        }
+        wrongQuestion(x, "zany 1=1", 1, 0);
+        wrongQuestion(x, "zirst 1=1", 1, 0);
+        wrongQuestion(x, "many 1=1 zr 1=1", 1, 9);
+        wrongQuestion(x, "many 1=1 znd 1=1", 1, 9);
+        wrongQuestion(x, "many zot 1=1", 1, 5);
     }
 
     private static void tooMany() {
