@@ -390,7 +390,19 @@ final class Model {
     }
 
     boolean bound(int suit, int side, int person) {
-        return chain(suit, side, person) != null;
+        Suit s = suits.get(suit);
+        Set<Integer> reached = new HashSet<>();
+        if (s.judged) {
+            reached.add(side == 0 ? s.plaintiff : s.defendant);
+        }
+        boolean more = s.judged;
+        while (more) {
+            more = false;
+            for (int i = 0; i < links.size(); i++) {
+                more |= reached.contains(links.get(i).p) && carries(i, s.day) && reached.add(links.get(i).q);
+            }
+        }
+        return reached.contains(person);
     }
 
     /** The chain, by trying all of one length ahead of all that are longer. */
@@ -640,12 +652,21 @@ final class Model {
         return what == 0 ? told.barred(b) : what == 1 ? bits(told.held(b)) : told.forced(b);
     }
 
-    int freeTill(int suit, int farthest) {
+    /** Behind the last judgment one day is like another: those days are tried at once. */
+    int freeTill(int suit) {
         Model told = copy();
-        for (int day = farthest; day >= 0; day--) {
+        told.suits.get(suit).filed = 9999;
+        if (told.barred(suit) == 0) {
+            return 9999;
+        }
+        int last = 0;
+        for (Suit s : suits) {
+            last = Math.max(last, s.day);
+        }
+        for (int day = last; day >= 0; day--) {
             told.suits.get(suit).filed = day;
             if (told.barred(suit) == 0) {
-                return day == farthest ? 9999 : day;
+                return day;
             }
         }
         return -1;

@@ -554,7 +554,7 @@ public final class ModelTest {
                 });
                 break;
             case 16: wouldLook(few); break;
-            case 17: both("freeTill", () -> x.freeTill(suit), () -> { needSuit(suit); return model.freeTill(suit, 9999); }); break;
+            case 17: both("freeTill", () -> x.freeTill(suit), () -> { needSuit(suit); return model.freeTill(suit); }); break;
             case 18: both("against", () -> x.against(issue), () -> { need(issue >= 0 && issue <= 30); return model.against(issue); }); break;
             default: both("fault", x::fault, () -> fault); break;
         }
