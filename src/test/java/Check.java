@@ -13,6 +13,10 @@ final class Check {
     private Check() {
     }
 
+    static int checkedSoFar() {
+        return checked;
+    }
+
     static void due(String call, long got, long want) {
         checked++;
         if (got != want) {
