@@ -95,6 +95,8 @@ final class ActEdges {
             Edge.due("each an act", x.count(8), 7);
             x.reverse(0);
             Edge.due("of a reversed one, too", x.find(0, 30, 1, true), 0);
+            Edge.due("the last issue was yes", x.find(0, 30, -1, true), 1);
+            Edge.due("the but was yes", x.find(0, 1, 0, true), 1);
         });
         Edge.of(24, "NONE (nothing changes): it isn't JUDGED.", () -> {
             BarredSuits x = Edge.told(BASE);
@@ -311,6 +313,19 @@ final class ActEdges {
             x.reverse(0);
             for (int left = 4; left >= 0; left--) {
                 Edge.due("left", x.undo(), left);
+                Edge.alike("as it was with " + left, Edge.state(x), states[left]);
+            }
+        });
+        Edge.of(29, "The latest ACT is UNDONE", () -> {
+            BarredSuits x = Edge.told("person a;person b;suit a b 1 needs 0 1 2 buts 30;judged 0 1 form yes 0 1 no 2 30 untried 1 2;");
+            String[] states = new String[4];
+            int[][] findings = {{0, 0, 0}, {2, 1, 1}, {30, -1, 0}, {1, 0, 1}};
+            for (int i = 0; i < 4; i++) {
+                states[i] = Edge.state(x);
+                x.find(0, findings[i][0], findings[i][1], findings[i][2] == 1);
+            }
+            for (int left = 3; left >= 0; left--) {
+                Edge.due("a finding", x.undo(), left);
                 Edge.alike("as it was with " + left, Edge.state(x), states[left]);
             }
         });

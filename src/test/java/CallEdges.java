@@ -94,6 +94,18 @@ final class CallEdges {
             Edge.due("empty then, too", x.count(9) + x.count(0), 0);
             Edge.due("ten suits", Check.desk(x, "person a;person b;" + Edge.times("suit a b 1;", 10)), 10);
         });
+        Edge.of(3, "tell all anew", () -> {
+            String few = "person a;person b;suit a b 5 facts 1 needs 1;";
+            String many = P4 + "heir a b 9;heir a c 9;share 9;mutual 2;each 1;suit a b 0 facts 1 needs 1 2;judged 0 0 merits yes 1 no 2 untried 1;reversed 0;"
+                    + "suit a b 9 facts 1 needs 1;suit a b 0 facts 1 needs 1;judged 2 0 merits yes 1;suit a b 0 facts 1 needs 1;judged 3 0 merits no 1;";
+            BarredSuits x = Edge.told(many);
+            Check.desk(x, few);
+            x.image();
+            nothingIsLeft(x);
+            Check.desk(x, many);
+            x.back();
+            nothingIsLeft(x);
+        });
         Edge.of(3, "-10 less the FAULT (nothing else changes).", () -> {
             BarredSuits x = Edge.told(BASE);
             x.rule(0, 9);
@@ -123,6 +135,28 @@ final class CallEdges {
             Edge.alike("nothing changed", Edge.state(x), before);
             Edge.due("all twenty can be told", x.desk(20), 0);
         });
+    }
+
+    /** Of more persons, links and judged suits that were told ahead of the one suit that isn't judged. */
+    private static void nothingIsLeft(BarredSuits x) {
+        int[] suit = {0, 1, 5, 2, 2, 0, -1, 0, 0, 0, 0, 0, -1, 0, 0};
+        for (int what = 0; what < 15; what++) {
+            Edge.due("suit(0, " + what + ")", x.suit(0, what), suit[what]);
+        }
+        int[] counts = {2, 0, 1, 0, 0, 50, 0, 0, 0, 0, 0};
+        for (int what = 0; what <= 10; what++) {
+            Edge.due("count(" + what + ")", x.count(what), counts[what]);
+        }
+        Edge.due("no judgment", x.latest(0) + x.latest(1), -2);
+        Edge.due("nothing settled", x.against(1), 0);
+        Edge.due("no bar", x.barred(0) + x.freeTill(0), 9999);
+        Edge.due("nothing held", x.issues(0, 0), 0);
+        Edge.due("would be free", x.would(1, 9, 2, 2, 0, 0) | x.would(1, 9, 2, 2, 0, 1), 0);
+        Edge.due("judged", x.judge(0, 5, true), true);
+        Edge.due("nobody else is bound", x.isBound(0, 0, 1), false);
+        for (int what = 0; what <= 4; what++) {
+            Edge.due("goes(0, " + what + ")", x.goes(0, what), 0);
+        }
     }
 
     private static void fault() {
@@ -332,6 +366,10 @@ final class CallEdges {
             Edge.due("to the other side one less", x.chain(0, 1, 11, -1), 10);
             x.reverse(0);
             Edge.due("of a reversed one", x.chain(0, 0, 11, -1), 11);
+            x.tie(0, 11, 9, -1);
+            Edge.due("by a link more", x.chain(0, 0, 11, -1) * 100 + x.chain(0, 0, 11, 0), 111);
+            x.cut(11);
+            Edge.due("once it is gone", x.chain(0, 0, 11, -1), 11);
         });
         Edge.of(10, "NONE: it isn't BOUND so, the SUIT isn't JUDGED.", () -> {
             BarredSuits x = Edge.told(BASE);
@@ -363,7 +401,8 @@ final class CallEdges {
 
     private static void two() {
         Edge.of(11, "0 FACTS that both have (bits), 1 whether they are SAME (1, 0), 2 whether the first is BARRED by the second (1, 0), 3 whether the first comes behind it (1, 0)", () -> {
-            BarredSuits x = Edge.told(P4 + "suit a b 1 facts 0 30 7;judged 0 1 merits;suit a b 1 facts 30 0 8;suit a b 1;");
+            BarredSuits x = Edge.told(P4 + "suit a b 1 facts 0 30 7;judged 0 1 merits;suit a b 1 facts 30 0 8;suit a b 1;suit c d 1 facts 1;judged 3 1 merits;suit c d 1 facts 1;");
+            Edge.due("barred by the fourth, not by the first", x.two(4, 3, 2) * 10 + x.two(4, 0, 2), 10);
             Edge.due("facts", x.two(0, 1, 0), 1 | 1 << 30);
             Edge.due("no facts", x.two(0, 2, 0), 0);
             Edge.due("same", x.two(0, 1, 1) * 10 + x.two(0, 2, 1), 10);
@@ -583,6 +622,12 @@ final class CallEdges {
             x.find(1, 1, 0, true);
             Edge.due("held otherwise, forced otherwise", x.goes(1, 1) * 1000 + x.goes(1, 2), 16);
         });
+        Edge.of(19, "FORCED otherwise (2)", () -> {
+            BarredSuits x = Edge.told("person a;person b;suit a b 1 facts 1 needs 0;suit a b 1 facts 1 needs 0;judged 1 1 merits yes 0;suit a b 1 needs 0;");
+            Edge.due("the first suit and the last", x.goes(1, 2), 5);
+            Edge.due("the first alone isn't barred any more", x.goes(1, 0), 1);
+            Edge.due("both have fewer", x.goes(1, 1), 5);
+        });
         Edge.of(19, "whose JUDGMENT STANDS ON it (3), or on such a one, again and again (4).", () -> {
             StringBuilder text = new StringBuilder("person a;person b;");
             for (int i = 0; i < 10; i++) {
@@ -593,6 +638,8 @@ final class CallEdges {
             Edge.due("the next", x.goes(0, 3), 2);
             Edge.due("all nine", x.goes(0, 4), 1022);
             Edge.due("of the last one none", x.goes(9, 3) + x.goes(9, 4), 0);
+            BarredSuits wide = Edge.told("person a;person b;suit a b 1 needs 0 30;judged 0 1 merits yes 0 30;suit a b 1 needs 0;judged 1 2 form yes 0;suit a b 1 needs 30;judged 2 2 form yes 30;suit a b 1 needs 0;judged 3 2 form no 0;");
+            Edge.due("two at once", wide.goes(0, 3) * 10 + wide.goes(0, 4), 66);
             BarredSuits y = Edge.told("person a;person b;suit a b 5 needs 1;suit a b 5 needs 1;judged 0 5 merits yes 1;judged 1 5 merits yes 1;");
             Edge.due("two of one day that stand on one another", y.goes(0, 3) * 10 + y.goes(0, 4), 23);
         });

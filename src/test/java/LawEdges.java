@@ -147,11 +147,12 @@ final class LawEdges {
     private static void same() {
         Edge.term(11, "SAME: how many FACTS both have, by 100, are SHARE times the FACTS of that with fewer, or more", () -> {
             BarredSuits x = Edge.told(P4 + "suit a b 1 facts 1 2;suit a b 1 facts 2 3 4 5;suit a b 1 facts 2 6 7;"
-                    + "suit a b 1 facts" + Edge.row(0, 30) + ";suit a b 1 facts 2;suit a b 1 facts 8 1 30;");
+                    + "suit a b 1 facts" + Edge.row(0, 30) + ";suit a b 1 facts 2;suit a b 1 facts 8 1 30;"
+                    + "suit a b 1 facts 10 11 12;suit a b 1 facts 11 12 13;");
             Edge.due("1 of 2 is 50", x.two(0, 1, 1), 1);
             Edge.due("1 of 3 is not", x.two(1, 2, 1), 0);
             int[][] edges = {{51, 0, 1, 0}, {33, 1, 2, 1}, {34, 1, 2, 0}, {100, 0, 3, 1}, {100, 3, 3, 1}, {100, 4, 1, 1},
-                {100, 0, 1, 0}, {1, 0, 5, 1}};
+                {100, 0, 1, 0}, {1, 0, 5, 1}, {66, 6, 7, 1}, {67, 6, 7, 0}};
             for (int[] edge : edges) {
                 x.rule(0, edge[0]);
                 Edge.due("SHARE " + edge[0] + " of " + edge[1] + " and " + edge[2], x.two(edge[1], edge[2], 1), edge[3]);
@@ -188,6 +189,8 @@ final class LawEdges {
                 Edge.due("MUTUAL " + mutual, x.barred(1), mutual == 2 ? 1 : 0);
                 Edge.due("filed ahead, other facts, another party", x.barred(2) | x.barred(3) | x.barred(4), 0);
             }
+            BarredSuits others = Edge.told(P4 + "mutual 2;suit d c 5 facts 1;judged 0 8 merits;suit c d 8 facts 1;suit c b 8 facts 1;suit b d 8 facts 1;");
+            Edge.due("both, not one alone", others.barred(1) * 100 + others.barred(2) * 10 + others.barred(3), 100);
             BarredSuits form = Edge.told(P4 + "mutual 2;suit a b 5 facts 1;judged 0 8 form;suit b a 8 facts 1;");
             Edge.due("for form", form.barred(1), 0);
         });
@@ -328,6 +331,10 @@ final class LawEdges {
             Edge.due("0 counts then", x.two(2, 0, 4) * 10 + x.two(2, 1, 4), 10);
             x.reverse(2);
             Edge.due("reversed itself", x.two(2, 0, 4), 0);
+            for (int issue : new int[] {0, 30}) {
+                BarredSuits y = Edge.told(P4 + "suit a b 1 needs " + issue + ";judged 0 1 merits no " + issue + ";suit a b 1 needs " + issue + ";judged 1 1 form no " + issue + ";");
+                Edge.due("by issue " + issue, y.two(1, 0, 4), 1);
+            }
         });
     }
 }

@@ -264,6 +264,10 @@ final class TextEdges {
 
     private static void lines() {
         Edge.term(3, "LINE: 'person' NAME |", () -> {
+            Edge.fault("zerson a;", 1, 0);
+            Edge.fault("persoz a;", 1, 0);
+            Edge.fault("perso a;", 1, 0);
+            Edge.fault("persons a;", 1, 0);
             Edge.fault("person", 1, 6);
             Edge.fault("person ;", 1, 7);
             Edge.fault("person a b;", 1, 9);
