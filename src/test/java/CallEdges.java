@@ -96,15 +96,17 @@ final class CallEdges {
         });
         Edge.of(3, "tell all anew", () -> {
             String few = "person a;person b;suit a b 5 facts 1 needs 1;";
-            String many = P4 + "heir a b 9;heir a c 9;share 9;mutual 2;each 1;suit a b 0 facts 1 needs 1 2;judged 0 0 merits yes 1 no 2 untried 1;reversed 0;"
-                    + "suit a b 9 facts 1 needs 1;suit a b 0 facts 1 needs 1;judged 2 0 merits yes 1;suit a b 0 facts 1 needs 1;judged 3 0 merits no 1;";
-            BarredSuits x = Edge.told(many);
-            Check.desk(x, few);
-            x.image();
-            nothingIsLeft(x);
-            Check.desk(x, many);
-            x.back();
-            nothingIsLeft(x);
+            String many = P4 + "heir a b 9;heir a c 9;share 9;mutual 2;each 1;suit a b 0 facts 1 needs 1 2;judged 0 0 merits yes 1 no 2 untried 1;reversed 0;";
+            String[] seconds = {"suit a b 9 facts 1 needs 1;", "suit a b 0 facts 1 needs 1;judged 1 0 merits yes 1;"};
+            for (String second : seconds) {
+                BarredSuits x = Edge.told(many + second);
+                Check.desk(x, few);
+                x.image();
+                nothingIsLeft(x);
+                Check.desk(x, many + second);
+                x.back();
+                nothingIsLeft(x);
+            }
         });
         Edge.of(3, "-10 less the FAULT (nothing else changes).", () -> {
             BarredSuits x = Edge.told(BASE);

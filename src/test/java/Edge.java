@@ -114,17 +114,17 @@ final class Edge {
         return text.toString();
     }
 
-    /** All that can be looked at of a small desk (with the bytes of the latest say()), to see that nothing changed. */
+    /** What can be looked at of a small desk, to see that nothing changed: few calls, as an object has only 512. */
     static String state(BarredSuits x) {
         StringBuilder all = new StringBuilder();
         for (int what = 0; what <= 10; what++) {
             all.append(x.count(what)).append(' ');
         }
-        int letters = x.count(0) * 6;
+        int letters = x.count(0) * 2;
         int ofLinks = x.count(1) * 5;
         int ofSuits = x.count(2) * 15;
         for (int i = 0; i < letters; i++) {
-            all.append(x.letter(i / 6, i % 6)).append(' ');
+            all.append(x.letter(i / 2, i % 2)).append(' ');
         }
         for (int i = 0; i < ofLinks; i++) {
             all.append(x.link(i / 5, i % 5)).append(' ');
@@ -133,7 +133,7 @@ final class Edge {
             all.append(x.suit(i / 15, i % 15)).append(' ');
         }
         all.append(x.fault()).append(' ');
-        for (int i = 0; i < 16; i++) {
+        for (int i = 0; i <= 10; i += 5) {
             all.append(x.said(i)).append(' ');
         }
         return all.toString();
