@@ -1085,8 +1085,9 @@ public final class BarredSuits {
             for (int head = 0; head < waiting && head < PERSONS_MOST; head++) {
                 for (int i = 0; i < records.linkCount; i++) {
                     Link link = records.links[i];
-                    boolean fresh = link.giver == queue[head] && (seen >> link.taker & 1) == 0;
-                    if (fresh && link.carries(judged.day) && waiting < PERSONS_MOST) {
+                    boolean reaches = link.giver == queue[head] && link.carries(judged.day);
+                    boolean fresh = isPerson(link.taker) && (seen >> link.taker & 1) == 0;
+                    if (reaches && fresh && waiting < PERSONS_MOST) {
                         seen |= 1 << link.taker;
                         via[link.taker] = i;
                         queue[waiting] = link.taker;
@@ -1099,13 +1100,21 @@ public final class BarredSuits {
 
         private int goBack(int person) {
             int length = 0;
-            int here = person;
-            while (length < PERSONS_MOST && via[here] != NONE) {
-                backward[length] = via[here];
-                here = records.links[via[here]].giver;
+            int link = linkTo(person);
+            while (length < PERSONS_MOST && link >= 0 && link < records.linkCount) {
+                backward[length] = link;
+                link = linkTo(records.links[link].giver);
                 length++;
             }
             return length;
+        }
+
+        private int linkTo(int person) {
+            return isPerson(person) ? via[person] : NONE;
+        }
+
+        private static boolean isPerson(int person) {
+            return person >= 0 && person < PERSONS_MOST;
         }
 
         int chainLink(int length, int k) {
@@ -1207,7 +1216,8 @@ public final class BarredSuits {
         /** Suits are weighed with rising numbers, so of one day the new one counts. */
         private boolean countsOverHolder(Suit judged, int issue) {
             int holder = holders[issue];
-            return holder == NONE || judged.day >= records.suits[holder].day;
+            boolean free = holder < 0 || holder >= records.suitCount;
+            return free || judged.day >= records.suits[holder].day;
         }
 
         private void setHolder(Suit judged, int issue) {

@@ -45,6 +45,10 @@ public final class FaceTest {
             }
         }
         Check.due("the methods " + seen, seen.equals(new TreeSet<>(Arrays.asList(FACE))), true);
+        for (Method m : BarredSuits.class.getDeclaredMethods()) {
+            boolean isPublic = Modifier.isPublic(m.getModifiers());
+            Check.due("name of " + m, publicNames.contains(m.getName()), isPublic);
+        }
         for (Field f : BarredSuits.class.getDeclaredFields()) {
             boolean none = f.getName().equals("NONE");
             Check.due("field " + f, none ? Modifier.isPublic(f.getModifiers()) : Modifier.isPrivate(f.getModifiers()), true);
